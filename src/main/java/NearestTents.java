@@ -39,9 +39,12 @@ public final class NearestTents {
     private static final int SHEETS = 4;
     private static final int MOST_NUMBERS = 40;
 
-    /** A move as a number: the tent times MOVE_TENT, and the yard; with its FAR times MOVE_FAR on top. */
+    /**
+     * A move as a number: the tent times MOVE_TENT, and the yard. On top of it, times MOVE_TOP, stands
+     * what is asked along with it: how FAR it is, or how many such moves there are; 0: there is none.
+     */
     private static final int MOVE_TENT = 1000;
-    private static final int MOVE_FAR = 100000;
+    private static final int MOVE_TOP = 100000;
 
     private final Camp camp = new Camp();
     private final Camp kept = new Camp();
@@ -259,7 +262,7 @@ public final class NearestTents {
             return finding(BEYOND);
         }
         int least = trials.leastMove(n);
-        return least == NOBODY ? finding(NONE) : least / MOVE_FAR;
+        return least == NOBODY ? finding(NONE) : least / MOVE_TOP;
     }
 
     public int whom(int n) {
@@ -267,7 +270,7 @@ public final class NearestTents {
             return finding(BEYOND);
         }
         int least = trials.leastMove(n);
-        return least < MOVE_FAR ? finding(NONE) : least % MOVE_FAR;
+        return least < MOVE_TOP ? finding(NONE) : least % MOVE_TOP;
     }
 
     public int place() {
@@ -352,18 +355,15 @@ public final class NearestTents {
         if (!camp.isSet(said) || !isFrom(0, d, 2)) {
             return finding(BEYOND);
         }
-        return d == 0 ? trials.stayingExplains(said) : trials.countMoves(said, d);
+        return trials.explainingMoves(said, d) / MOVE_TOP;
     }
 
     public int moved(int said, int d) {
         if (!camp.isSet(said) || !isFrom(0, d, 2)) {
             return finding(BEYOND);
         }
-        if (d == 0) {
-            return trials.stayingExplains(said) == 1 ? 0 : finding(NONE);
-        }
-        int first = trials.firstMove(said, d);
-        return first == NOBODY ? finding(NONE) : first;
+        int moves = trials.explainingMoves(said, d);
+        return moves < MOVE_TOP ? finding(NONE) : moves % MOVE_TOP;
     }
 
     public int strew(int n) {
@@ -712,7 +712,10 @@ public final class NearestTents {
             return tent;
         }
 
-        /** Takes a tent away; those behind it move up, which leaves who is elder as it was. */
+        /**
+         * Takes a tent away, where it only matters who hears whom: those behind it move up, which
+         * leaves who is elder as it was; what they say stays behind.
+         */
         void strike(int tent) {
             if (!has(tent)) {
                 return;
@@ -721,8 +724,6 @@ public final class NearestTents {
                 kinds[i] = kinds[i + 1];
                 yards[i] = yards[i + 1];
             }
-            int below = (1 << tent) - 1;
-            said = said & below | said >> 1 & ~below;
             tents--;
         }
 
@@ -1089,7 +1090,7 @@ public final class NearestTents {
             return 2 * voteAfter(n) > trial.tents;
         }
 
-        /** The move with its FAR on top; 0 if none is needed, NOBODY if none does. */
+        /** The least move, and how FAR it is; 0 if none is needed, NOBODY if none does. */
         int leastMove(int n) {
             begin();
             if (isWon(n)) {
@@ -1103,7 +1104,7 @@ public final class NearestTents {
                     if (far < bestFar && camp.tentOn(yard) == NOBODY) {
                         tryMove(i, yard);
                         if (isWon(n)) {
-                            best = MOVE_FAR * far + MOVE_TENT * i + yard;
+                            best = MOVE_TOP * far + MOVE_TENT * i + yard;
                             bestFar = far;
                         }
                     }
@@ -1198,48 +1199,27 @@ public final class NearestTents {
             return best;
         }
 
-        int stayingExplains(int said) {
+        /** The first move such that a set is what is said next, and how many there are; d 0: all stay. */
+        int explainingMoves(int said, int d) {
             begin();
-            return ears.nextSaid(trial.said) == said ? 1 : 0;
-        }
-
-        int countMoves(int said, int d) {
-            begin();
+            if (d == 0) {
+                return ears.nextSaid(trial.said) == said ? MOVE_TOP : 0;
+            }
+            int first = 0;
             int ways = 0;
             for (int i = 0; i < camp.tents; i++) {
-                int yard = nextExplaining(i, 0, said, d);
-                for (int steps = 0; steps < YARDS && yard != NOBODY; steps++) {
-                    ways++;
-                    yard = nextExplaining(i, yard + 1, said, d);
-                }
-                tryMove(i, camp.yards[i]);
-            }
-            return ways;
-        }
-
-        int firstMove(int said, int d) {
-            begin();
-            for (int i = 0; i < camp.tents; i++) {
-                int yard = nextExplaining(i, 0, said, d);
-                if (yard != NOBODY) {
-                    return MOVE_TENT * i + yard;
-                }
-                tryMove(i, camp.yards[i]);
-            }
-            return NOBODY;
-        }
-
-        /** The first yard, from one on, to which a tent can have gone such that a set is what is said next. */
-        private int nextExplaining(int tent, int from, int said, int d) {
-            for (int yard = from; yard < YARDS; yard++) {
-                if (isWithin(camp.yards[tent], yard, d) && camp.tentOn(yard) == NOBODY) {
-                    tryMove(tent, yard);
-                    if (ears.nextSaid(trial.said) == said) {
-                        return yard;
+                for (int yard = 0; yard < YARDS; yard++) {
+                    if (isWithin(camp.yards[i], yard, d) && camp.tentOn(yard) == NOBODY) {
+                        tryMove(i, yard);
+                        if (ears.nextSaid(trial.said) == said) {
+                            first = ways == 0 ? MOVE_TENT * i + yard : first;
+                            ways++;
+                        }
                     }
                 }
+                tryMove(i, camp.yards[i]);
             }
-            return NOBODY;
+            return MOVE_TOP * ways + first;
         }
 
         private static boolean isWithin(int one, int other, int d) {
