@@ -22,13 +22,16 @@ public final class NearestTents {
     private static final int CONTRARY = 5;
     private static final int FARSIGHTED = 6;
     private static final int KINDS = 7;
-    private static final int[] KIND_ABOVE = {-1, TENT, TENT, PROPHET, ELDERLY, TENT, CONTRARY};
+    /** By kind the kind that it stands under; -1: none. */
+    private static final int[] KIND_ABOVE = {-1, 0, 0, 2, 1, 0, 5};
 
     private static final int NOBODY = -1;
     private static final int MOST_TENTS = 10;
     private static final int SAYINGS = 1 << MOST_TENTS;
     private static final int SIDE = 12;
     private static final int YARDS = SIDE * SIDE;
+    /** More than any FAR, and more than there are tents. */
+    private static final int ENDLESS = 1000000;
     private static final int LAST_DAY = 999999999;
     private static final int MOST_DAYS_AT_ONCE = 100000;
     private static final int MOST_DAYS_AHEAD = 999999;
@@ -819,7 +822,7 @@ public final class NearestTents {
 
         private int nearestBelow(int tent, int below) {
             int best = NOBODY;
-            int bestGap = Integer.MAX_VALUE;
+            int bestGap = ENDLESS;
             for (int i = 0; i < below; i++) {
                 int gap = gaps[MOST_TENTS * tent + i];
                 if (i != tent && gap < bestGap) {
@@ -1097,7 +1100,7 @@ public final class NearestTents {
                 return 0;
             }
             int best = NOBODY;
-            int bestFar = Integer.MAX_VALUE;
+            int bestFar = ENDLESS;
             for (int i = 0; i < camp.tents; i++) {
                 for (int yard = 0; yard < YARDS; yard++) {
                     int far = camp.apart(camp.yards[i], yard);
@@ -1159,7 +1162,7 @@ public final class NearestTents {
 
         int keyTent() {
             int best = NOBODY;
-            int fewest = Integer.MAX_VALUE;
+            int fewest = ENDLESS;
             for (int i = 0; i < camp.tents; i++) {
                 trial.become(camp);
                 trial.strike(i);
@@ -1379,7 +1382,7 @@ public final class NearestTents {
         }
 
         private boolean isSideNumber() {
-            return sort == NUMBER && isSide(number);
+            return sort == NUMBER && number < SIDE;
         }
 
         private boolean isWord(String word) {
