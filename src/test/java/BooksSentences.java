@@ -86,7 +86,8 @@ final class BooksSentences extends Sentences {
 
         promise(31, "NONE");
         betweenMutes().refused(NONE, "moved", 5, 0).refused(NONE, "moved", 7, 2).refused(NONE, "moved", 0, 1);
-        run().refused(NONE, "moved", 0, 1).refused(NONE, "moved", 0, 2);
+        bare().refused(NONE, "moved", 0, 1).refused(NONE, "moved", 0, 2);
+        rich().refused(NONE, "moved", 0, 0).refused(NONE, "moved", 0, 2);
     }
 
     static void strew() {
@@ -114,7 +115,7 @@ final class BooksSentences extends Sentences {
         run().refused(BEYOND, "strew", 0).refused(BEYOND, "strew", 13);
 
         promise(32, "STATE: there are no TENTS");
-        run().refused(STATE, "strew", 1).refused(STATE, "strew", 12);
+        bare().refused(STATE, "strew", 1).refused(STATE, "strew", 12);
     }
 
     /** A tent goes to the yard of the next draw, unless another one is there. */
@@ -165,7 +166,7 @@ final class BooksSentences extends Sentences {
         run().refused(BEYOND, "camps", 0).refused(BEYOND, "camps", 13);
 
         promise(33, "STATE: there are no TENTS");
-        run().refused(STATE, "camps", 1).refused(STATE, "camps", 12);
+        bare().refused(STATE, "camps", 1).refused(STATE, "camps", 12);
     }
 
     /** Each time goes on from where the tents were then: a seed by which the pairs are others if they went back in between. */

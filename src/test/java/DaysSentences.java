@@ -39,13 +39,14 @@ final class DaysSentences extends Sentences {
         run().refused(BEYOND, "days", 0).refused(BEYOND, "days", 100001);
 
         promise(11, "STATE: DAY would be above 999999999");
-        Run c = run().longer();
+        // More calls than an object is promised for: there is no other way to the last day.
+        Run c = furnished(camp(PROPHET, 0, 0)).longer();
         for (int i = 0; i < 9999; i++) {
             c.ask("days", 100000);
         }
-        c.due(STATE, "days", 100000).due(1, "status", 4).due(1, "status", -1).due(999900000, "count", 0).due(0, "days", 99998);
-        c.due(STATE, "days", 2).due(0, "days", 1).due(999999999, "count", 0).due(STATE, "days", 1).due(STATE, "days", 100000)
-                .due(BEYOND, "days", 100001).due(4, "status", 4).due(5, "status", -1).due(999999999, "now", 0);
+        c.refused(STATE, "days", 100000).refused(STATE, "days", 99993).due(999900007, "count", 0).due(1, "days", 99991);
+        c.refused(STATE, "days", 2).due(1, "days", 1).due(999999999, "count", 0).refused(STATE, "days", 1).refused(STATE, "days", 100000)
+                .refused(BEYOND, "days", 100001).refused(BEYOND, "days", 0).due(999999999, "now", 0);
     }
 
     static void now() {
@@ -69,6 +70,7 @@ final class DaysSentences extends Sentences {
             ten().due(full[what], "now", what);
         }
         camp(TENT, 0, 0, TENT, 1, 0).due(0, "now", 6).due(0, "now", 5);
+        camp(TENT, 6, 0, TENT, 3, 0, TENT, 1, 0, TENT, 0, 0).due(2, "now", 6).due(1, "now", 5).due(12, "now", 4);
         camp(ELDERLY, 0, 0, ELDERLY, 1, 0, ELDERLY, 2, 0).due(-1, "now", 6).due(4, "now", 5);
 
         promise(12, "BEYOND");
@@ -146,7 +148,7 @@ final class DaysSentences extends Sentences {
         camp(MUTE, 0, 0, ELDERLY, 1, 0).with("change", 1, 3, 1).due(1, "mind");
 
         promise(17, "NONE: never, or there are no TENTS");
-        run().refused(NONE, "mind");
+        bare().refused(NONE, "mind");
         rowOn().refused(NONE, "mind");
         rich().refused(NONE, "mind");
         camp(MUTE, 0, 0, MUTE, 1, 0).with("change", 1, 3, 1).refused(NONE, "mind");

@@ -10,12 +10,9 @@ final class ImagesSentences extends Sentences {
 
     /** What rich() was when its image was taken, with the sheets and the tape that it has now. */
     static Run richThen() {
-        return camp(TENT, 2, 3, ELDERLY, 4, 3, MUTE, 8, 9)
+        return papers(camp(TENT, 2, 3, ELDERLY, 4, 3, MUTE, 8, 9)
                 .with("change", 2, 3, 1).with("hold", 0, 2).with("hold", 9, 0).with("wall", 0, 5).with("wall", 1, 2)
-                .with("seed", 12345).with("days", 3).with("image")
-                .with("sheet", 0, 8, 3).with("write", 0, 1, 1).with("write", 0, 2, 5)
-                .with("sheet", 1, 16, 4).with("write", 1, 3, 1).with("write", 1, 0, 1).with("sheet", 2, 32, 0)
-                .feeds("mute at 9 9 on;wall 7 bridge 3;counted");
+                .with("seed", 12345).with("days", 3).with("image"), "mute at 9 9 on;wall 7 bridge 3;counted");
     }
 
     static void image() {

@@ -46,6 +46,15 @@ final class MovesSentences extends Sentences {
         return camp(MUTE, 0, 5, MUTE, 10, 5, MUTE, 5, 6, TENT, 5, 5).with("change", 0, 3, 1).with("change", 1, 3, 1);
     }
 
+    /**
+     * 3 hears 0, in the corner, who says 1; to make it hear 2 it must go to the other corner, since on
+     * no yard that there is 2 would be farther from it: it would be beyond the last, or mirrored ahead of the first.
+     */
+    static Run noYardBeyond(boolean first) {
+        return camp(MUTE, 0, first ? 0 : 11, MUTE, 1, first ? 0 : 11, MUTE, 0, first ? 1 : 10, FARSIGHTED, 11, first ? 11 : 0)
+                .with("change", 0, 3, 1).with("change", 1, 3, 1);
+    }
+
     static void least() {
         promise(18, "The least FAR by which one TENT");
         betweenMutes().quiet(1, "least", 1).quiet(1, "least", 60).with("wall", 0, 3).with("wall", 1, 5).due(36, "least", 1)
@@ -53,6 +62,8 @@ final class MovesSentences extends Sentences {
         oneCorner(false).due(81 + 121, "least", 1);
         oneCorner(true).due(81 + 121, "least", 1);
         twoYards().due(8, "least", 1);
+        noYardBeyond(false).due(121, "least", 1);
+        noYardBeyond(true).due(121, "least", 1);
         for (int all = 1; all <= 10; all++) {
             mutes(all, all / 2).due(NONE, "least", 1).due(NONE, "least", 60);
             mutes(all, all / 2 + 1).quiet(0, "least", 1).due(0, "least", 60);
@@ -66,7 +77,7 @@ final class MovesSentences extends Sentences {
         run().refused(BEYOND, "least", 0).refused(BEYOND, "least", 61);
 
         promise(18, "NONE");
-        run().refused(NONE, "least", 1).refused(NONE, "least", 60);
+        bare().refused(NONE, "least", 1).refused(NONE, "least", 60);
         mutes(4, 2).refused(NONE, "least", 1);
         camp(PROPHET, 0, 0, MUTE, 5, 5).refused(NONE, "least", 60);
         camp(TENT, 0, 0).refused(NONE, "least", 1);
@@ -78,16 +89,21 @@ final class MovesSentences extends Sentences {
         oneCorner(false).due(7143, "whom", 1);
         oneCorner(true).due(7000, "whom", 1);
         twoYards().due(3000 + 12 * 3 + 3, "whom", 1);
+        noYardBeyond(false).due(3143, "whom", 1);
+        noYardBeyond(true).due(3011, "whom", 1);
+        // The least that it can tell: 0 goes one step to yard 0.
+        camp(TENT, 1, 0, MUTE, 0, 1, MUTE, 2, 0).with("change", 1, 3, 1).quiet(0, "whom", 1).due(1, "least", 1);
         // 0 going to (1, 0) is as little as 2 going there.
         camp(MUTE, 0, 0, MUTE, 3, 0, TENT, 2, 0).with("change", 0, 3, 1).due(1, "whom", 1);
         camp(TENT, 2, 0, MUTE, 0, 0, MUTE, 3, 0).with("change", 1, 3, 1).due(1, "whom", 1);
 
         promise(19, "BEYOND");
         betweenMutes().bounds(0, 1, 60, "whom", 1);
+        rich().refusesAll(BEYOND, 0, new int[] {0, 61, MIN, MAX}, "whom", 1);
         run().refused(BEYOND, "whom", 0).refused(BEYOND, "whom", 61);
 
         promise(19, "NONE: also if it is so without");
-        run().refused(NONE, "whom", 1);
+        bare().refused(NONE, "whom", 1).refused(NONE, "whom", 60);
         mutes(4, 2).refused(NONE, "whom", 60);
         mutes(4, 3).refused(NONE, "whom", 1);
         mutes(1, 1).refused(NONE, "whom", 60);
@@ -101,6 +117,9 @@ final class MovesSentences extends Sentences {
         // As far as the last yard is no other one: the farsighted would hear it.
         camp(FARSIGHTED, 0, 0, ELDERLY, 11, 10).quiet(143, "place");
         camp(FARSIGHTED, 11, 11, ELDERLY, 0, 1).due(0, "place");
+        // Where it would be farthest is no yard.
+        camp(FARSIGHTED, 11, 0, ELDERLY, 0, 11).due(0, "place").due(0, "leads");
+        camp(FARSIGHTED, 11, 11, ELDERLY, 0, 0).due(1, "place").due(0, "leads");
         camp(ELDERLY, 0, 0, ELDERLY, 1, 0, ELDERLY, 2, 0).due(3, "place");
         camp(TENT, 5, 5, TENT, 5, 8).due(12 * 3 + 3, "place");
         camp(TENT, 0, 0).due(1, "place");
@@ -111,6 +130,7 @@ final class MovesSentences extends Sentences {
             nine.with("tent", ELDERLY, i, 0);
         }
         nine.quiet(9, "place").with("tent", ELDERLY, 9, 0).refused(STATE, "place");
+        crowded().refused(STATE, "place");
     }
 
     static void leads() {
@@ -129,7 +149,7 @@ final class MovesSentences extends Sentences {
         nine.due(9, "leads");
 
         promise(21, "STATE likewise");
-        ten().refused(STATE, "leads");
+        crowded().refused(STATE, "leads");
         nine.with("tent", MUTE, 11, 11).refused(STATE, "leads");
     }
 
@@ -177,12 +197,15 @@ final class MovesSentences extends Sentences {
         camp(ELDERLY, 0, 0, TENT, 5, 0, ELDERLY, 6, 0).due(1, "key");
         camp(ELDERLY, 3, 3, TENT, 1, 0, TENT, 5, 0, TENT, 3, 0).due(3, "key");
         camp(TENT, 0, 0).due(0, "key");
+        camp(ELDERLY, 0, 0, TENT, 5, 0, TENT, 6, 0, TENT, 8, 0).due(1, "key");
+        // With all of the ring none has a line, without one of them both others have.
+        camp(FARSIGHTED, 0, 0, TENT, 3, 0, TENT, 7, 0).due(0, "key").due(-1, "now", 6);
         ten().quiet(0, "key");
         // Nobody of them ever has a line.
         camp(ELDERLY, 0, 0, ELDERLY, 1, 0).due(0, "key");
 
         promise(24, "NONE: there are no TENTS");
-        run().refused(NONE, "key");
+        bare().refused(NONE, "key");
         run().feeds("free;tent at 12 0").with("text").refused(NONE, "key");
     }
 
@@ -201,7 +224,7 @@ final class MovesSentences extends Sentences {
         last.with("tent", MUTE, 11, 11).due(8, "leader");
 
         promise(25, "NONE: there are no TENTS");
-        run().refused(NONE, "leader");
+        bare().refused(NONE, "leader");
     }
 
     static void walled() {
@@ -236,9 +259,15 @@ final class MovesSentences extends Sentences {
     static void heard() {
         promise(28, "The TENT whose SAYS, being the other one now");
         row().quiet(1, "heard", 1).quiet(0, "heard", 2).due(0, "heard", 60);
+        Run on = row();
+        for (int t = 0; t < 4; t++) {
+            on.with("change", t, 3, 1);
+        }
+        on.due(1, "heard", 1);
         camp(TENT, 3, 3).due(0, "heard", 1);
         // Itself isn't counted: each mute one changes nothing but what it says itself.
         camp(MUTE, 0, 0, MUTE, 5, 5, MUTE, 9, 9, TENT, 9, 10).due(2, "heard", 1).due(2, "heard", 60);
+        camp(PROPHET, 0, 0, MUTE, 11, 11, TENT, 1, 0, TENT, 10, 11).due(0, "heard", 1).due(1, "heard", 2);
         // What 1 says comes to 2, a day later to 3, and then to 0.
         camp(TENT, 11, 11, MUTE, 0, 0, TENT, 1, 0, TENT, 3, 0).due(1, "heard", 1).due(1, "heard", 2).due(1, "heard", 3);
         camp(TENT, 0, 0, PROPHET, 1, 0).due(1, "heard", 1).due(0, "heard", 2);
@@ -253,6 +282,6 @@ final class MovesSentences extends Sentences {
         run().refused(BEYOND, "heard", 0).refused(BEYOND, "heard", 61);
 
         promise(28, "NONE: there are no TENTS");
-        run().refused(NONE, "heard", 1).refused(NONE, "heard", 60);
+        bare().refused(NONE, "heard", 1).refused(NONE, "heard", 60);
     }
 }

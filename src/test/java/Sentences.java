@@ -251,8 +251,10 @@ class Sentences {
             tell(told, "text");
             tellCamp(told);
             tellSheets(told);
+            tellSpots(told);
             tell(told, "undo");
             tellCamp(told);
+            tellSpots(told);
             return told;
         }
 
@@ -274,6 +276,9 @@ class Sentences {
             }
             tell(told, "now", 1);
             ask("wall", 2, tell(told, "wall", 2, 1));
+        }
+
+        private void tellSpots(List<String> told) {
             for (int spot = 0; spot < 10; spot++) {
                 tell(told, "as", spot, TENT);
             }
@@ -341,15 +346,36 @@ class Sentences {
         return c;
     }
 
-    /** Something of all: four tents, a wall, spots, sheets (one with no numbers, one missing), a tape, an image of another camp. */
+    /** Sheets, of which one has no numbers and one is missing, and a text on the tape. */
+    static Run papers(Run c, String text) {
+        return c.with("sheet", 0, 8, 3).with("write", 0, 1, 1).with("write", 0, 2, 5)
+                .with("sheet", 1, 16, 4).with("write", 1, 3, 1).with("write", 1, 0, 1).with("sheet", 2, 32, 0).feeds(text);
+    }
+
+    /** Something of all: four tents, a wall, spots, papers, an image of another camp. */
     static Run rich() {
-        return camp(TENT, 2, 3, ELDERLY, 4, 3, MUTE, 8, 9)
+        return papers(camp(TENT, 2, 3, ELDERLY, 4, 3, MUTE, 8, 9)
                 .with("change", 2, 3, 1).with("hold", 0, 2).with("hold", 9, 0).with("wall", 0, 5).with("wall", 1, 2)
                 .with("seed", 12345).with("days", 3).with("image")
                 .with("tent", CONTRARY, 11, 0).with("move", 1, 5, 4).with("change", 0, 0, PROPHET).with("wall", 2, 0)
-                .with("wall", 0, 6).with("wall", 1, 7).with("seed", -9).with("hold", 5, 1).with("hold", 0, -1).with("days", 4)
-                .with("sheet", 0, 8, 3).with("write", 0, 1, 1).with("write", 0, 2, 5)
-                .with("sheet", 1, 16, 4).with("write", 1, 3, 1).with("write", 1, 0, 1).with("sheet", 2, 32, 0)
-                .feeds("mute at 9 9 on;wall 7 bridge 3;counted");
+                .with("wall", 0, 6).with("wall", 1, 7).with("seed", -9).with("hold", 5, 1).with("hold", 0, -1).with("days", 4),
+                "mute at 9 9 on;wall 7 bridge 3;counted");
+    }
+
+    /** Whatever tents there are, with all else as in rich(); the image is of other walls and another day. */
+    static Run furnished(Run c) {
+        return papers(c.with("wall", 0, 5).with("wall", 1, 2).with("seed", 12345).with("days", 3).with("image")
+                .with("wall", 2, 0).with("wall", 0, 6).with("wall", 1, 7).with("seed", -9).with("days", 4),
+                "wall 7 bridge 3;counted");
+    }
+
+    /** No tents, but all else. */
+    static Run bare() {
+        return furnished(run());
+    }
+
+    /** As many tents as there may be, and all else. */
+    static Run crowded() {
+        return furnished(ten().with("change", 3, 3, 1).with("hold", 9, 9).with("hold", 0, 0));
     }
 }

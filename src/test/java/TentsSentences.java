@@ -68,6 +68,7 @@ final class TentsSentences extends Sentences {
             nine.with("tent", TENT, i, i);
         }
         nine.due(9, "tent", TENT, 9, 9).refused(FULL, "tent", TENT, 10, 10).refused(FULL, "tent", MUTE, 0, 1);
+        crowded().refused(FULL, "tent", MUTE, 0, 0).refused(FULL, "tent", TENT, 11, 11);
     }
 
     static void of() {
@@ -149,7 +150,7 @@ final class TentsSentences extends Sentences {
 
         promise(7, "NONE");
         rich().refused(NONE, "on", 3, 2).refused(NONE, "on", 0, 11).refused(NONE, "on", 4, 3);
-        run().refused(NONE, "on", 0, 0).refused(NONE, "on", 11, 11);
+        bare().refused(NONE, "on", 0, 0).refused(NONE, "on", 11, 11);
     }
 
     static void far() {
@@ -177,6 +178,7 @@ final class TentsSentences extends Sentences {
         run().refused(BEYOND, "nearest", 0);
 
         promise(9, "NONE: it is alone");
+        furnished(camp(TENT, 3, 3)).refused(NONE, "nearest", 0);
         camp(ELDERLY, 5, 5).refused(NONE, "nearest", 0).with("tent", TENT, 6, 6).due(1, "nearest", 0).due(0, "nearest", 1);
     }
 

@@ -297,6 +297,10 @@ final class TermsSentences extends Sentences {
         text(-1 - 8, "tent at 4294967296 0");
         text(-1 - 8, "tent at 18446744073709551616 0");
         text(-1 - 10, "tent at 1 " + "9".repeat(110));
+        text(-1, "freez");
+        text(-1, "afree");
+        text(-1 - 10, "tent at 1 12345");
+        text(3, "tent at 9 0on;wall 10;wall 09");
         for (char c : new char[] {'`', '{', 'A', 'Z', '/', ':', '<', '\t', '\n', 0, 31, 33, 127, 128, 160, 255}) {
             text(-1 - 4, "free" + c);
             text(-1 - 5, "free;" + c + "free");
@@ -359,6 +363,19 @@ final class TermsSentences extends Sentences {
         text(-1 - 6, "wall 3,wall 4");
         ten().feeds("free; mute at 0 0").due(-1 - 6, "text");
         ten().feeds("mute on").due(-1, "text");
+        otherWords("tent at 0 0", 0, 4);
+        otherWords("elderly at 0 0", 0, 7);
+        otherWords("prophet at 0 0", 0, 7);
+        otherWords("mute at 0 0", 0, 4);
+        otherWords("doubting at 0 0", 0, 8);
+        otherWords("contrary at 0 0", 0, 8);
+        otherWords("farsighted at 0 0", 0, 10);
+        otherWords("tent at 0 0", 5, 7);
+        otherWords("tent at 0 0 on", 12, 14);
+        otherWords("wall 3 bridge 4", 0, 4);
+        otherWords("wall 3 bridge 4", 7, 13);
+        otherWords("counted", 0, 7);
+        otherWords("free", 0, 4);
         text(-1 - 4, "tent");
         text(-1 - 6, "tent  ");
         text(-1 - 7, "tent at");
@@ -367,6 +384,21 @@ final class TermsSentences extends Sentences {
         text(-1 - 4, "wall");
         text(-1 - 13, "wall 3 bridge");
         text(-1 - 120, "free;".repeat(24));
+    }
+
+    /** A word of a text with another letter, one less, one more, or a great one: the fault is where it begins. */
+    static void otherWords(String text, int begin, int end) {
+        String ahead = text.substring(0, begin), word = text.substring(begin, end), behind = text.substring(end);
+        text(1, text);
+        for (int i = 0; i < word.length(); i++) {
+            char other = word.charAt(i) == 'x' ? 'y' : 'x';
+            text(-1 - begin, ahead + word.substring(0, i) + other + word.substring(i + 1) + behind);
+            text(-1 - begin, ahead + word.substring(0, i) + other + word.substring(i) + behind);
+        }
+        text(-1 - begin, ahead + word + "x" + behind);
+        text(-1 - begin, ahead + word.substring(0, word.length() - 1) + behind);
+        text(-1 - begin, ahead + word.substring(1) + behind);
+        text(-1 - begin, ahead + Character.toUpperCase(word.charAt(0)) + word.substring(1) + behind);
     }
 
     static void text(int due, String text) {

@@ -26,6 +26,7 @@ final class TextsSentences extends Sentences {
 
         promise(35, "FULL");
         taped(116).due(120, "feed", 0x66726565, 4).refused(FULL, "feed", 0x20, 1).refused(FULL, "feed", 0x20202020, 4).due(1, "text").due(1, "feed", 0, 1);
+        rich().feeds(" ".repeat(82)).refused(FULL, "feed", 0x20, 1).refused(FULL, "feed", 0x3b, 4).due(3, "text");
         for (int n = 1; n <= 4; n++) {
             taped(120 - n).due(120, "feed", 0, n);
             taped(121 - n).refused(FULL, "feed", 0x66726565, n).due(121 - n, "count", 5);
