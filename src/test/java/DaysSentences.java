@@ -24,6 +24,11 @@ final class DaysSentences extends Sentences {
         return c;
     }
 
+    /** A ring of three that turns what is said round once: 0 hears 2, that 1, that 0. */
+    static Run ring() {
+        return camp(FARSIGHTED, 0, 0, ELDERLY, 10, 0, TENT, 11, 0);
+    }
+
     static void days() {
         promise(11, "n DAYS go (1 to 100000)");
         rowOn().due(1, "days", 1).due(2, "now", 1).due(2, "days", 1).due(5, "now", 1).due(2, "days", 100000).due(5, "now", 1)
@@ -105,11 +110,31 @@ final class DaysSentences extends Sentences {
         for (int n = 0; n < 12; n++) {
             spread().due((1 << Math.min(n, 10)) - 1, "saying", n);
         }
+        circles();
         run().due(0, "saying", 0).due(0, "saying", 999999);
 
         promise(14, "BEYOND");
         rich().bounds(0, 0, 999999, "saying", 0);
         run().refused(BEYOND, "saying", -1).refused(BEYOND, "saying", 1000000);
+    }
+
+    /** Camps whose circles are of 1, 2, 4 and 6 days, some of which come to them late: as said day by day, and so twelve days on. */
+    static void circles() {
+        Run[] camps = {spread(), rowOn(), wheel(), ring(), ring().with("tent", ELDERLY, 9, 0).with("tent", ELDERLY, 8, 0).with("tent", ELDERLY, 7, 0)};
+        for (Run c : camps) {
+            Run goes = c.twin();
+            int[] said = new int[40];
+            for (int n = 0; n < said.length; n++) {
+                said[n] = goes.ask("now", 1);
+                goes.with("days", 1);
+            }
+            for (int n = 0; n < said.length; n++) {
+                c.due(said[n], "saying", n);
+            }
+            for (int n = 999960; n <= 999999; n++) {
+                c.due(said[12 + n % 12], "saying", n);
+            }
+        }
     }
 
     static void settles() {
@@ -131,8 +156,8 @@ final class DaysSentences extends Sentences {
         run().quiet(1, "circle");
         camp(TENT, 5, 5).due(1, "circle");
         camp(CONTRARY, 5, 5, CONTRARY, 6, 5).due(2, "circle").with("change", 0, 3, 1).due(1, "circle");
-        // A ring of three that turns what is said round once: it comes again after six days.
-        camp(FARSIGHTED, 0, 0, ELDERLY, 10, 0, TENT, 11, 0).due(6, "circle").due(0, "settles")
+        // Once round turns what each says, twice round turns it back.
+        ring().due(6, "circle").due(0, "settles")
                 .with("change", 1, 3, 1).due(2, "circle").due(0, "settles");
     }
 

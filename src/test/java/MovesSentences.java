@@ -201,6 +201,8 @@ final class MovesSentences extends Sentences {
         // With all of the ring none has a line, without one of them both others have.
         camp(FARSIGHTED, 0, 0, TENT, 3, 0, TENT, 7, 0).due(0, "key").due(-1, "now", 6);
         ten().quiet(0, "key");
+        // Without 0 those that 3 comes to are a ring, without 2 others are: either way 1 and 5 alone have a line.
+        camp(TENT, 3, 0, TENT, 7, 1, TENT, 4, 1, FARSIGHTED, 5, 0, TENT, 0, 0, ELDERLY, 9, 1).due(0, "key");
         // Nobody of them ever has a line.
         camp(ELDERLY, 0, 0, ELDERLY, 1, 0).due(0, "key");
 

@@ -159,6 +159,8 @@ final class TermsSentences extends Sentences {
         term("FARSIGHTED: of all others the one most FAR");
         c.with("change", 3, 0, FARSIGHTED).due(0, "of", 3, 4).with("move", 5, 11, 5).due(5, "of", 3, 4).with("move", 5, 10, 5);
         c.with("wall", 0, 6).with("wall", 1, 11).due(5, "of", 3, 4).with("wall", 0, 0);
+        // The only other one, as little FAR as can be.
+        camp(FARSIGHTED, 0, 0, TENT, 1, 0).due(1, "of", 0, 4).with("change", 1, 0, FARSIGHTED).due(0, "of", 1, 4);
         term("(Others as the KIND above.)");
         c.with("change", 3, 0, PROPHET).due(4, "of", 3, 4).with("change", 3, 0, MUTE).due(4, "of", 3, 4)
                 .with("change", 3, 0, DOUBTING).due(1, "of", 3, 4);
